@@ -731,9 +731,9 @@ public final class LineDisk {
             System.arraycopy(row, from, text, 0, length);
             System.arraycopy(values, 0, variables, 0, VARIABLES);
             end = length;
-            boolean gives = isVariable(text[0]) && length > 1 && text[1] == '=';
-            kind = gives ? '=' : text[0];
-            at = gives ? 0 : 1;
+            kind = length > 1 && isVariable(text[0]) && text[1] == '=' ? '=' : text[0];
+            // A text that begins with = itself is read from there too, and fails for want of a variable.
+            at = kind == '=' ? 0 : 1;
             return true;
         }
 
