@@ -794,13 +794,11 @@ public final class LineDisk {
                 number = 10 * number + peek() - '0';
                 at++;
             }
-            if (at == start) {
-                good = false;
-            }
             return number;
         }
 
         private int lineNumber() {
+            // No digits at all are 0 as well, and no number of a line either.
             int number = digits(LINE_DIGITS);
             if (number == 0) {
                 good = false;
