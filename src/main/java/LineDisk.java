@@ -45,8 +45,6 @@ public final class LineDisk {
     private final Journal journal = new Journal();
     private final Workspace workspace = new Workspace();
     private final Statement statement = new Statement();
-    private final int[] typed = new int[TYPED_LENGTH];
-    private int typedCount = 0;
     private final int[] kept = new int[OUT_KEPT];
     private int outCount = 0;
 
@@ -65,7 +63,7 @@ public final class LineDisk {
 
     public int recover() {
         store.dead = false;
-        emptyWorkspace();
+        workspace.empty();
         int answer = NOT_FORMATTED;
         if (store.isFormatted()) {
             answer = journal.replay(store) ? FINE : died();
@@ -79,15 +77,16 @@ public final class LineDisk {
             return DEAD;
         }
         if (c != ENTER) {
-            keepTyped(c);
+            workspace.keepTyped(c);
             return FINE;
         }
-        int length = typedCount;
-        typedCount = 0;
+        int[] typed = workspace.typed;
+        int length = workspace.typedCount;
+        workspace.typedCount = 0;
         if (length == 0) {
             return FINE;
         }
-        return isDigit(typed[0]) ? enterLine(length) : enterCommand(length);
+        return isDigit(typed[0]) ? enterLine(typed, length) : enterCommand(typed, length);
     }
 
     public int step(int n) {
@@ -162,7 +161,7 @@ public final class LineDisk {
             case 9:
                 return workspace.numberOf(workspace.nextLine());
             case 10:
-                return typedCount;
+                return workspace.typedCount;
             default:
                 return NONE;
         }
@@ -185,31 +184,18 @@ public final class LineDisk {
     }
 
     private int died() {
-        emptyWorkspace();
+        workspace.empty();
         return DEAD;
     }
 
-    private void emptyWorkspace() {
-        workspace.removeLines();
-        workspace.clearVariables();
-        typedCount = 0;
-    }
-
     private void putOut(int number) {
-        if (outCount < OUT_KEPT) {
+        if (outCount >= 0 && outCount < OUT_KEPT) {
             kept[outCount] = number;
         }
         outCount++;
     }
 
-    private void keepTyped(int c) {
-        if (typedCount < TYPED_LENGTH) {
-            typed[typedCount] = c;
-            typedCount++;
-        }
-    }
-
-    private int enterLine(int length) {
+    private int enterLine(int[] typed, int length) {
         int digits = 1;
         int number = typed[0] - '0';
         if (length > 1 && isDigit(typed[1])) {
@@ -229,7 +215,7 @@ public final class LineDisk {
         return workspace.put(number, typed, digits, length - digits) ? FINE : NO_ROOM;
     }
 
-    private int enterCommand(int length) {
+    private int enterCommand(int[] typed, int length) {
         if (length == 1) {
             return plainCommand(typed[0]);
         }
@@ -553,15 +539,31 @@ public final class LineDisk {
         }
     }
 
-    /** The lines in the order of their numbers, the variables, and NEXT. */
+    /** The lines in the order of their numbers, the variables, NEXT, and what is typed. */
     private static final class Workspace {
         private final int[] numbers = new int[MOST_LINES];
         private final int[] lengths = new int[MOST_LINES];
         private final int[] texts = new int[MOST_LINES * LINE_LENGTH];
         private final int[] unpacked = new int[LINE_LENGTH];
         private final int[] variables = new int[VARIABLES];
+        private final int[] typed = new int[TYPED_LENGTH];
         private int lines = 0;
         private int next = 0;
+        private int typedCount = 0;
+
+        void empty() {
+            lines = 0;
+            next = 0;
+            typedCount = 0;
+            Arrays.fill(variables, 0);
+        }
+
+        void keepTyped(int c) {
+            if (typedCount < TYPED_LENGTH) {
+                typed[typedCount] = c;
+                typedCount++;
+            }
+        }
 
         void removeLines() {
             lines = 0;

@@ -2,16 +2,32 @@
 final class Check {
     private static int wrong = 0;
     private static int checks = 0;
+    private static int sentences = 0;
+    private static String sentence = "";
 
     private Check() {
+    }
+
+    /** Runs the test of one sentence of the document; what is wrong in it is told with its words. */
+    static void sentence(String words, Runnable test) {
+        sentence = "\"" + words + "\": ";
+        sentences++;
+        int before = checks;
+        test.run();
+        holds("there is a check", checks > before);
+        sentence = "";
     }
 
     static void same(String what, long want, long got) {
         checks++;
         if (want != got) {
-            wrong++;
-            System.out.println(what + " answered " + got + ", due is " + want);
+            tellWrong(what + " answered " + got + ", due is " + want);
         }
+    }
+
+    private static void tellWrong(String what) {
+        wrong++;
+        System.out.println(sentence + what);
     }
 
     static void holds(String what, boolean is) {
@@ -27,8 +43,7 @@ final class Check {
         }
         checks++;
         if (thrown != due) {
-            wrong++;
-            System.out.println(what + " threw " + thrown + ", due is " + due);
+            tellWrong(what + " threw " + thrown + ", due is " + due);
         }
     }
 
@@ -80,7 +95,8 @@ final class Check {
     }
 
     static void end(String name) {
-        System.out.println(name + ": " + checks + " checks, " + wrong + " wrong");
+        String of = sentences == 0 ? "" : " of " + sentences + " sentences";
+        System.out.println(name + ": " + checks + " checks" + of + ", " + wrong + " wrong");
         if (wrong != 0 || checks == 0) {
             System.exit(1);
         }
