@@ -140,8 +140,7 @@ public final class StepEdgesTest {
         b.cells(48, 0, 0, 0, 0, 0, 0, 0, 0, 16, 9).cells(64, 0).cells(79, 7).writes(3 + 6 + 4 + 6).noFile(0);
     }
 
-    /** Seven files of three blocks are all that other files can take: W finds the room that is left,
-            so 9 never comes. */
+    /** Seven files of three blocks are all that others can take: W finds the room that is left, and 9 never comes. */
     private static void fullestDisk() {
         Bench b = Bench.formatted().lines(10);
         for (int n = 1; n < 8; n++) {

@@ -102,8 +102,8 @@ public final class TypingEdgesTest {
 
     private static void theRest() {
         new Bench().type(0, "1" + TWELVE).type(2, "1" + THIRTEEN).lineCount(1).step(6, 1).numbersOut(21);
-        new Bench().type(0, "1P5").type(2, "1P", "1X", "1 ", "1N", "1S0", "1=5", "10,").lineCount(1).step(6, 1)
-                .numbersOut(5);
+        Bench b = new Bench().type(0, "1P5").type(2, "1P", "1P5X", "1EE", "1X", "1 ", "1N", "1S0", "1=5", "10,");
+        b.lineCount(1).step(6, 1).numbersOut(5);
         new Bench().type(0, "9A=1+2+3+4+5").step(6, 1).variable('A', 15).type(2, "9A=1+2+3+4+5+", "9A=1+2+3+4+55+6");
     }
 
